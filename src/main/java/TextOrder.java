@@ -338,7 +338,6 @@ public final class TextOrder {
             placed = 0;
             for (int s = 0; s < signs.count; s++) {
                 lineOf[s] = NONE;
-                spotOf[s] = NONE;
             }
             gatherKind(signs, places, false);
             gatherKind(signs, places, true);
@@ -558,16 +557,17 @@ public final class TextOrder {
                 long leastGap, int pile) {
             int parting = NONE;
             long widest = leastGap - 1;
-            long reach = Long.MAX_VALUE;
+            long reach = 0;
+            boolean isFirst = true;
             for (int i = 0; i < length; i++) {
                 int segment = order[i];
                 if (pileOf[segment] == pile) {
-                    boolean isFirst = reach == Long.MAX_VALUE;
                     if (!isFirst && starts[segment] - reach > widest) {
                         widest = starts[segment] - reach;
                         parting = i;
                     }
                     reach = isFirst ? ends[segment] : Math.max(reach, ends[segment]);
+                    isFirst = false;
                 }
             }
             raise(order, parting, pile);

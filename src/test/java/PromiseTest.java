@@ -25,6 +25,8 @@ public final class PromiseTest {
         blocksAcross();
         blocksDown();
         blocksWithinBlocks();
+        blocksByTheWidestGap();
+        blocksByAllSignsOfSegments();
         blocksByLines();
         manyBlocks();
         twice();
@@ -275,6 +277,17 @@ public final class PromiseTest {
         DUE.is("line: left by the head", page.line(1), 1);
         DUE.fails("line: -1", NO_SIGN, () -> page.line(-1));
         DUE.fails("line: behind", NO_SIGN, () -> page.line(6));
+        TextOrder half = page("ab");
+        half.sign('a', 0, 0, 5, 10);
+        half.sign('b', 5, -5, 5, 10);
+        DUE.is("line: less by half the size", half.line(1), 0);
+        half.sign('b', 5, -6, 5, 1);
+        DUE.is("line: a double of one in a line", half.line(2), -1);
+        TextOrder back = page("abc");
+        back.sign('c', 10, 0, 5, 10);
+        back.sign('b', 5, 0, 5, 10);
+        back.sign('a', 0, 0, 5, 10);
+        reads("line: by u", back, "abc");
         TextOrder heads = page("abc");
         heads.sign('a', 10, 0, 5, 20);
         heads.sign('b', 0, 0, 5, 2);
@@ -333,6 +346,16 @@ public final class PromiseTest {
         none.sign('a', 0, 0, 0, 10);
         none.sign('b', 30, 0, 5, 10);
         DUE.is("space: cut without a width", none.block(1), 1);
+        TextOrder one = page("ab");
+        one.sign('a', 0, 0, 1, 10);
+        one.sign('b', 2, 0, 5, 10);
+        reads("space: of a gap and a width of 1", one, "a b");
+        one.sign('a', 1, 0, 1, 10);
+        DUE.is("space: gone when the gap is filled", one.space(0) ? 1 : 0, 0);
+        TextOrder over = page("ab");
+        over.sign('a', 0, 0, 5, 10);
+        over.sign('b', 3, 0, 5, 10);
+        DUE.is("space: none where they overlap", over.space(0) ? 1 : 0, 0);
         TextOrder cutOff = page("ab");
         cutOff.sign('a', 0, 0, 1001, 1000);
         cutOff.sign('b', 1251, 0, 5, 1000);
@@ -397,6 +420,60 @@ public final class PromiseTest {
             DUE.is("within: block of " + i, page.block(i), want[i]);
         }
         reads("within: text", page, "h\na\nc\nb d");
+    }
+
+    /** A heading over two rows of two columns: which gap parts first tells what comes next. */
+    private static TextOrder headingAndRows(long second, long third) {
+        TextOrder page = page("habcd");
+        page.sign('h', 0, 0, 60, 10);
+        page.sign('a', 0, second, 5, 10);
+        page.sign('b', 50, second, 5, 10);
+        page.sign('c', 0, third, 5, 10);
+        page.sign('d', 50, third, 5, 10);
+        return page;
+    }
+
+    private static void blocksByTheWidestGap() {
+        reads("widest: the lower gap", headingAndRows(-30, -61), "h\na\nb\nc\nd");
+        reads("widest: the upper gap", headingAndRows(-31, -61), "h\na\nc\nb\nd");
+        reads("widest: of equal ones the first", headingAndRows(-30, -60), "h\na\nc\nb\nd");
+        reads("widest: the lower gap alone", headingAndRows(-12, -61), "h a b\nc\nd");
+    }
+
+    /** What a segment's later signs reach counts, not only its first or last one's. */
+    private static void blocksByAllSignsOfSegments() {
+        TextOrder right = page("abcd");
+        right.sign('a', 0, 0, 50, 10);
+        right.sign('b', 5, 0, 5, 10);
+        right.sign('c', 60, -12, 5, 10);
+        DUE.is("segment: the right of the first sign", right.block(2), 0);
+        right.sign('d', 75, -24, 5, 10);
+        DUE.is("segment: no gap yet", right.block(3), 0);
+        TextOrder later = page("abc");
+        later.sign('a', 0, 0, 5, 10);
+        later.sign('b', 5, 0, 20, 10);
+        later.sign('c', 44, -12, 5, 10);
+        DUE.is("segment: the right of the second sign", later.block(2), 0);
+        TextOrder bottom = page("abc");
+        bottom.sign('a', 0, 0, 5, 10);
+        bottom.sign('b', 5, -5, 5, 10);
+        bottom.sign('c', 0, -24, 5, 10);
+        DUE.is("segment: the bottom of the second sign", bottom.block(2), 0);
+        TextOrder top = page("abc");
+        top.sign('a', 0, 0, 5, 10);
+        top.sign('b', 0, -25, 5, 5);
+        top.sign('c', 5, -25, 5, 13);
+        DUE.is("segment: the greatest size", top.block(1), 0);
+        DUE.is("segment: the line of the second sign", top.line(2), 1);
+        TextOrder high = page("abc");
+        high.sign('a', 0, 0, 5, 10);
+        high.sign('b', 0, -18, 5, 6);
+        high.sign('c', 5, -19, 5, 10);
+        DUE.is("segment: the top of the second sign", high.block(1), 0);
+        TextOrder low = page("ab");
+        low.sign('a', 0, 0, 5, 10);
+        low.sign('b', 0, -18, 5, 8);
+        DUE.is("segment: parted by once the size", low.block(1), 1);
     }
 
     /** Two segments of the second line, one of the first over both: one block. */
@@ -524,6 +601,8 @@ public final class PromiseTest {
         DUE.fails("word: -2", OUTSIDE, () -> page.word(-2, 0));
         DUE.fails("word: what -1", OUTSIDE, () -> page.word(0, -1));
         DUE.fails("word: what 2", OUTSIDE, () -> page.word(0, 2));
+        DUE.is("word: the first letter begins one", rows("ab").word(0, 0), 0);
+        DUE.is("word: one in all", rows("ab").word(-1, 0), 1);
         page.sign('a', 50, 0, 5, 10);
         DUE.is("word: the last one", page.word(4, 0), 11);
         DUE.is("word: the last one's length", page.word(4, 1), 1);
@@ -619,6 +698,8 @@ public final class PromiseTest {
         DUE.is("area: left of it", page.area(1, -12, 6, 0), 0);
         DUE.is("area: below it", page.area(0, -11, 7, -1), 0);
         DUE.is("area: none between", page.area(7, 0, 0, -12), 0);
+        page.map(0, 'b', 'b', 'c');
+        DUE.is("area: by the maps as they are", page.area(0, -12, 0, -12), 2);
         page.turn(3, true);
         page.turn(4, true);
         DUE.is("area: by (x, y) of a turned one, too", page.area(7, -12, 7, -12), 1);
