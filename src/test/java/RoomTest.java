@@ -18,6 +18,7 @@ public final class RoomTest {
         TextOrder page = new TextOrder();
         RoomTest before = measured(page);
         due.holds(before.objects + " objects", before.objects <= MOST_OBJECTS);
+        System.out.println(before.objects + " objects, " + before.elements + " fields and elements");
         due.holds(before.elements + " fields and elements", before.elements <= MOST_ELEMENTS);
         for (int i = 0; i < 200; i++) {
             page.sign(i, (i % 20) * 40L, -(i / 20) * 30L, 5, 10);
