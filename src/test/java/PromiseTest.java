@@ -39,31 +39,14 @@ public final class PromiseTest {
         DUE.end();
     }
 
-    /** Codes are letters: a page whose map 0 tells each code from 33 to 126 as itself. */
-    private static TextOrder page(String codes) {
-        TextOrder page = new TextOrder();
-        for (int i = 0; i < codes.length(); i++) {
-            page.map(0, codes.charAt(i), codes.charAt(i), 0);
-        }
-        return page;
-    }
-
-    private static String text(TextOrder page) {
-        StringBuilder text = new StringBuilder();
-        for (int i = 0; i < page.length(); i++) {
-            text.append((char) page.letter(i));
-        }
-        return text.toString();
-    }
-
-    private static void reads(String what, TextOrder page, String want) {
-        String got = text(page);
+    private static void reads(String what, Page page, String want) {
+        String got = page.text();
         DUE.holds(what + " reads '" + got.replace('\n', '|') + "', due is '" + want.replace('\n', '|') + "'",
                 got.equals(want));
     }
 
     private static void newObject() {
-        TextOrder page = new TextOrder();
+        Page page = new Page();
         DUE.is("new: length", page.length(), 0);
         DUE.is("new: words", page.word(-1, 0), 0);
         DUE.is("new: find", page.find(0), 0);
@@ -77,7 +60,7 @@ public final class PromiseTest {
     }
 
     private static void sign() {
-        TextOrder page = new TextOrder();
+        Page page = new Page();
         DUE.is("sign: first", page.sign(0, -1000000, -1000000, 0, 1), 0);
         DUE.is("sign: second", page.sign(255, 1000000, 1000000, 1000000, 1000), 1);
         DUE.fails("sign: code -1", ILLEGAL, () -> page.sign(-1, 0, 0, 0, 1));
@@ -95,7 +78,7 @@ public final class PromiseTest {
     }
 
     private static void signLimits() {
-        TextOrder page = new TextOrder();
+        Page page = new Page();
         for (int i = 0; i < 200; i++) {
             DUE.is("sign: number", page.sign(i, i * 10, 0, 10, 10), i);
         }
@@ -110,7 +93,7 @@ public final class PromiseTest {
     }
 
     private static void turn() {
-        TextOrder page = page("ab");
+        Page page = Page.telling("ab");
         page.sign('a', 0, 0, 5, 10);
         page.sign('b', 5, 0, 5, 10);
         reads("turn: none", page, "ab");
@@ -125,7 +108,7 @@ public final class PromiseTest {
     }
 
     private static void map() {
-        TextOrder page = new TextOrder();
+        Page page = new Page();
         DUE.is("map: one", page.map(0, 0, 1, 0), 0);
         DUE.is("map: two", page.map(0, 0, 65535, 65535), 1);
         DUE.is("map: none", page.map(0, 0, 0, 0), 2);
@@ -147,7 +130,7 @@ public final class PromiseTest {
     }
 
     private static void mapRank() {
-        TextOrder page = new TextOrder();
+        Page page = new Page();
         page.sign(9, 0, 0, 5, 10);
         DUE.is("rank: unknown", page.letter(0), 65533);
         page.map(3, 9, 'd', 'D');
@@ -167,7 +150,7 @@ public final class PromiseTest {
     }
 
     private static void tag() {
-        TextOrder page = page("abcd");
+        Page page = Page.telling("abcd");
         for (int i = 0; i < 4; i++) {
             page.sign("abcd".charAt(i), 0, -i * 12, 5, 10);
         }
@@ -189,7 +172,7 @@ public final class PromiseTest {
     }
 
     private static void tagsInOneSegment() {
-        TextOrder page = page("abc");
+        Page page = Page.telling("abc");
         page.sign('a', 0, 0, 5, 10);
         page.sign('b', 7, 0, 5, 10);
         page.sign('c', 12, 0, 5, 10);
@@ -205,7 +188,7 @@ public final class PromiseTest {
     }
 
     private static void lengthLetterFrom() {
-        TextOrder page = page("ab");
+        Page page = Page.telling("ab");
         page.map(1, 'L', 'f', 'i');
         page.sign('a', 0, 0, 5, 10);
         page.sign('L', 5, 0, 5, 10);
@@ -226,8 +209,8 @@ public final class PromiseTest {
     }
 
     /** Two lines of one block, the first ending with these letters, the second with this one. */
-    private static TextOrder twoLines(int first, int second, int later) {
-        TextOrder page = new TextOrder();
+    private static Page twoLines(int first, int second, int later) {
+        Page page = new Page();
         page.map(0, 1, first, second);
         page.map(0, 2, later, 0);
         page.sign(1, 0, 0, 5, 10);
@@ -245,23 +228,23 @@ public final class PromiseTest {
         reads("hyphen: the only letter", twoLines('-', 0, 'a'), "a");
         DUE.is("hyphen: from", twoLines('-', 0, 'a').from(0), 1);
         reads("hyphen: only one of two goes", twoLines('-', '-', 'a'), "-a");
-        TextOrder blocks = page("-a");
+        Page blocks = Page.telling("-a");
         blocks.sign('-', 0, 0, 5, 10);
         blocks.sign('a', 0, -100, 5, 10);
         reads("hyphen: not over blocks", blocks, "-\na");
-        TextOrder tags = twoLines('x', '-', 'a');
+        Page tags = twoLines('x', '-', 'a');
         tags.tag(0, 3);
         reads("hyphen: not over tags", tags, "x-\na");
         tags.tag(1, 3);
         reads("hyphen: in one tag", tags, "xa");
-        TextOrder row = page("-a");
+        Page row = Page.telling("-a");
         row.sign('-', 0, 0, 5, 10);
         row.sign('a', 5, 0, 5, 10);
         reads("hyphen: not in a segment", row, "-a");
     }
 
     private static void line() {
-        TextOrder page = page("abcdef");
+        Page page = Page.telling("abcdef");
         page.sign('a', 0, 0, 5, 11);
         page.sign('b', 5, -5, 5, 10);
         page.sign('c', 10, -6, 5, 11);
@@ -277,23 +260,23 @@ public final class PromiseTest {
         DUE.is("line: left by the head", page.line(1), 1);
         DUE.fails("line: -1", NO_SIGN, () -> page.line(-1));
         DUE.fails("line: behind", NO_SIGN, () -> page.line(6));
-        TextOrder half = page("ab");
+        Page half = Page.telling("ab");
         half.sign('a', 0, 0, 5, 10);
         half.sign('b', 5, -5, 5, 10);
         DUE.is("line: less by half the size", half.line(1), 0);
         half.sign('b', 5, -6, 5, 1);
         DUE.is("line: a double of one in a line", half.line(2), -1);
-        TextOrder back = page("abc");
+        Page back = Page.telling("abc");
         back.sign('c', 10, 0, 5, 10);
         back.sign('b', 5, 0, 5, 10);
         back.sign('a', 0, 0, 5, 10);
         reads("line: by u", back, "abc");
-        TextOrder heads = page("abc");
+        Page heads = Page.telling("abc");
         heads.sign('a', 10, 0, 5, 20);
         heads.sign('b', 0, 0, 5, 2);
         heads.sign('c', 20, -5, 5, 10);
         DUE.is("line: of one v, the least u is head", heads.line(2), 1);
-        TextOrder same = page("abc");
+        Page same = Page.telling("abc");
         same.sign('a', 0, 0, 5, 2);
         same.sign('b', 0, 0, 5, 20);
         same.sign('c', 20, -5, 5, 10);
@@ -302,7 +285,7 @@ public final class PromiseTest {
     }
 
     private static void turnedLines() {
-        TextOrder page = page("abcd");
+        Page page = Page.telling("abcd");
         page.sign('a', 0, 0, 5, 10);
         page.sign('b', 0, 5, 5, 10);
         page.sign('c', 12, 0, 5, 10);
@@ -319,7 +302,7 @@ public final class PromiseTest {
     }
 
     private static void segmentsAndSpaces() {
-        TextOrder page = page("abcdefg");
+        Page page = Page.telling("abcdefg");
         page.sign('a', 0, 0, 8, 10);
         page.sign('b', 10, 0, 8, 10);
         page.sign('c', 19, 0, 8, 10);
@@ -336,34 +319,34 @@ public final class PromiseTest {
         reads("cut: text", page, "a bc d\nefg");
         DUE.fails("space: -1", NO_SIGN, () -> page.space(-1) ? 1 : 0);
         DUE.fails("space: behind", NO_SIGN, () -> page.space(7) ? 1 : 0);
-        TextOrder thin = page("ab");
+        Page thin = Page.telling("ab");
         thin.sign('a', 0, 0, 0, 10);
         thin.sign('b', 29, 0, 5, 10);
         reads("space: none without a width", thin, "ab");
         thin.sign('b', 60, 0, 5, 5);
         DUE.is("space: cut without a width at 3 sizes of its own", thin.block(2), 0);
-        TextOrder none = page("ab");
+        Page none = Page.telling("ab");
         none.sign('a', 0, 0, 0, 10);
         none.sign('b', 30, 0, 5, 10);
         DUE.is("space: cut without a width", none.block(1), 1);
-        TextOrder one = page("ab");
+        Page one = Page.telling("ab");
         one.sign('a', 0, 0, 1, 10);
         one.sign('b', 2, 0, 5, 10);
         reads("space: of a gap and a width of 1", one, "a b");
         one.sign('a', 1, 0, 1, 10);
         DUE.is("space: gone when the gap is filled", one.space(0) ? 1 : 0, 0);
-        TextOrder over = page("ab");
+        Page over = Page.telling("ab");
         over.sign('a', 0, 0, 5, 10);
         over.sign('b', 3, 0, 5, 10);
         DUE.is("space: none where they overlap", over.space(0) ? 1 : 0, 0);
-        TextOrder cutOff = page("ab");
+        Page cutOff = Page.telling("ab");
         cutOff.sign('a', 0, 0, 1001, 1000);
         cutOff.sign('b', 1251, 0, 5, 1000);
         DUE.is("space: 249.7 is below 250", cutOff.space(0) ? 1 : 0, 0);
     }
 
     private static void blocksAcross() {
-        TextOrder page = page("abcd");
+        Page page = Page.telling("abcd");
         page.sign('a', 0, 0, 5, 10);
         page.sign('b', 35, 0, 5, 10);
         page.sign('c', 0, -12, 5, 10);
@@ -376,7 +359,7 @@ public final class PromiseTest {
         page.sign('a', 0, 12, 16, 10);
         DUE.is("across: 19 is less than twice the size", page.block(1), 0);
         reads("across: text of one block", page, "a a b c d");
-        TextOrder twenty = page("abcd");
+        Page twenty = Page.telling("abcd");
         twenty.sign('a', 0, 0, 5, 10);
         twenty.sign('b', 35, 0, 5, 10);
         twenty.sign('c', 0, 12, 15, 10);
@@ -388,7 +371,7 @@ public final class PromiseTest {
     }
 
     private static void blocksDown() {
-        TextOrder page = page("abc");
+        Page page = Page.telling("abc");
         page.sign('a', 0, 0, 5, 10);
         page.sign('b', 0, -20, 5, 10);
         page.sign('c', 0, -39, 5, 10);
@@ -397,11 +380,11 @@ public final class PromiseTest {
             DUE.is("down: block of " + i, page.block(i), want[i]);
         }
         reads("down: text", page, "a\nb c");
-        TextOrder order = page("ab");
+        Page order = Page.telling("ab");
         order.sign('a', 0, -50, 5, 10);
         order.sign('b', 100, 0, 5, 10);
         reads("down: left before right goes first", order, "a\nb");
-        TextOrder upper = page("ab");
+        Page upper = Page.telling("ab");
         upper.sign('a', 0, -50, 5, 10);
         upper.sign('b', 10, 0, 5, 10);
         reads("down: upper first", upper, "b\na");
@@ -409,7 +392,7 @@ public final class PromiseTest {
 
     /** A heading over two columns, the left one with a gap in it. */
     private static void blocksWithinBlocks() {
-        TextOrder page = page("habcd");
+        Page page = Page.telling("habcd");
         page.sign('h', 0, 0, 60, 10);
         page.sign('a', 0, -30, 5, 10);
         page.sign('b', 50, -30, 5, 10);
@@ -423,8 +406,8 @@ public final class PromiseTest {
     }
 
     /** A heading over two rows of two columns: which gap parts first tells what comes next. */
-    private static TextOrder headingAndRows(long second, long third) {
-        TextOrder page = page("habcd");
+    private static Page headingAndRows(long second, long third) {
+        Page page = Page.telling("habcd");
         page.sign('h', 0, 0, 60, 10);
         page.sign('a', 0, second, 5, 10);
         page.sign('b', 50, second, 5, 10);
@@ -442,35 +425,35 @@ public final class PromiseTest {
 
     /** What a segment's later signs reach counts, not only its first or last one's. */
     private static void blocksByAllSignsOfSegments() {
-        TextOrder right = page("abcd");
+        Page right = Page.telling("abcd");
         right.sign('a', 0, 0, 50, 10);
         right.sign('b', 5, 0, 5, 10);
         right.sign('c', 60, -12, 5, 10);
         DUE.is("segment: the right of the first sign", right.block(2), 0);
         right.sign('d', 75, -24, 5, 10);
         DUE.is("segment: no gap yet", right.block(3), 0);
-        TextOrder later = page("abc");
+        Page later = Page.telling("abc");
         later.sign('a', 0, 0, 5, 10);
         later.sign('b', 5, 0, 20, 10);
         later.sign('c', 44, -12, 5, 10);
         DUE.is("segment: the right of the second sign", later.block(2), 0);
-        TextOrder bottom = page("abc");
+        Page bottom = Page.telling("abc");
         bottom.sign('a', 0, 0, 5, 10);
         bottom.sign('b', 5, -5, 5, 10);
         bottom.sign('c', 0, -24, 5, 10);
         DUE.is("segment: the bottom of the second sign", bottom.block(2), 0);
-        TextOrder top = page("abc");
+        Page top = Page.telling("abc");
         top.sign('a', 0, 0, 5, 10);
         top.sign('b', 0, -25, 5, 5);
         top.sign('c', 5, -25, 5, 13);
         DUE.is("segment: the greatest size", top.block(1), 0);
         DUE.is("segment: the line of the second sign", top.line(2), 1);
-        TextOrder high = page("abc");
+        Page high = Page.telling("abc");
         high.sign('a', 0, 0, 5, 10);
         high.sign('b', 0, -18, 5, 6);
         high.sign('c', 5, -19, 5, 10);
         DUE.is("segment: the top of the second sign", high.block(1), 0);
-        TextOrder low = page("ab");
+        Page low = Page.telling("ab");
         low.sign('a', 0, 0, 5, 10);
         low.sign('b', 0, -18, 5, 8);
         DUE.is("segment: parted by once the size", low.block(1), 1);
@@ -478,14 +461,14 @@ public final class PromiseTest {
 
     /** Two segments of the second line, one of the first over both: one block. */
     private static void blocksByLines() {
-        TextOrder page = page("abcd");
+        Page page = Page.telling("abcd");
         page.sign('c', 0, -12, 5, 10);
         page.sign('d', 40, -12, 5, 10);
         page.sign('a', 0, 0, 45, 10);
         page.sign('b', 45, 0, 5, 10);
         DUE.is("by lines: one block", page.block(1), 0);
         reads("by lines: text", page, "ab c d");
-        TextOrder first = page("abc");
+        Page first = Page.telling("abc");
         first.sign('a', 0, 0, 5, 10);
         first.sign('b', 35, 0, 5, 10);
         first.sign('c', 70, 0, 5, 10);
@@ -498,7 +481,7 @@ public final class PromiseTest {
     /** Each gap is the widest of those left, from either end: 200 partings, one within another. */
     private static void manyBlocks() {
         for (int way = 0; way < 2; way++) {
-            TextOrder page = new TextOrder();
+            Page page = new Page();
             long x = -900000;
             for (int i = 0; i < 200; i++) {
                 page.sign(i, x, 0, 1, 1);
@@ -509,7 +492,7 @@ public final class PromiseTest {
             }
             DUE.is("many: length", page.length(), 399);
         }
-        TextOrder down = new TextOrder();
+        Page down = new Page();
         for (int i = 0; i < 200; i++) {
             down.sign(i, i % 2, 900000 - 100 * i - i * i, 1, 1);
         }
@@ -519,7 +502,7 @@ public final class PromiseTest {
     }
 
     private static void twice() {
-        TextOrder page = page("ab");
+        Page page = Page.telling("ab");
         page.sign('a', 0, 0, 8, 8);
         page.sign('a', 2, -2, 100, 100);
         page.sign('a', 3, 0, 8, 8);
@@ -546,17 +529,17 @@ public final class PromiseTest {
         DUE.is("twice: both letters", page.twice(6), -1);
         DUE.fails("twice: -1", NO_SIGN, () -> page.twice(-1));
         DUE.fails("twice: behind", NO_SIGN, () -> page.twice(7));
-        TextOrder chain = page("a");
+        Page chain = Page.telling("a");
         chain.sign('a', 0, 0, 8, 8);
         chain.sign('a', 2, 0, 8, 8);
         chain.sign('a', 4, 0, 8, 8);
         DUE.is("twice: not of a double", chain.twice(2), -1);
-        TextOrder passed = page("ab");
+        Page passed = Page.telling("ab");
         passed.sign('a', 0, 0, 5, 10);
         passed.sign('a', 1, 0, 100, 1000);
         passed.sign('b', 20, 0, 5, 10);
         reads("twice: passed in all that follows", passed, "a b");
-        TextOrder turned = page("a");
+        Page turned = Page.telling("a");
         turned.sign('a', 0, 0, 4, 40);
         turned.sign('a', 10, 1, 4, 40);
         DUE.is("twice: too far along x", turned.twice(1), -1);
@@ -566,7 +549,7 @@ public final class PromiseTest {
     }
 
     private static void share() {
-        TextOrder page = new TextOrder();
+        Page page = new Page();
         DUE.is("share", page.share(1, 4), 250);
         DUE.is("share: cut off", page.share(2, 3), 666);
         DUE.is("share: cut off below 0", page.share(-2, 3), -666);
@@ -582,7 +565,7 @@ public final class PromiseTest {
     }
 
     private static void word() {
-        TextOrder page = page("abcd");
+        Page page = Page.telling("abcd");
         page.map(0, '_', 32, 0);
         page.map(0, '|', 'x', 10);
         String codes = "_ab_c__|d_";
@@ -608,8 +591,8 @@ public final class PromiseTest {
         DUE.is("word: the last one's length", page.word(4, 1), 1);
     }
 
-    private static TextOrder rows(String... rows) {
-        TextOrder page = new TextOrder();
+    private static Page rows(String... rows) {
+        Page page = new Page();
         for (int r = 0; r < rows.length; r++) {
             for (int i = 0; i < rows[r].length(); i++) {
                 int c = rows[r].charAt(i);
@@ -620,7 +603,7 @@ public final class PromiseTest {
         return page;
     }
 
-    private static int seek(TextOrder page, String sought) {
+    private static int seek(Page page, String sought) {
         for (int i = 0; i < sought.length(); i++) {
             DUE.is("find: letters sought", page.find(sought.charAt(i)), i + 1);
         }
@@ -628,7 +611,7 @@ public final class PromiseTest {
     }
 
     private static void find() {
-        TextOrder page = rows("aaab", "ab");
+        Page page = rows("aaab", "ab");
         reads("find: text", page, "aaab ab");
         DUE.is("find: overlapping", seek(page, "aa"), 2);
         DUE.is("find: over lines", seek(page, "b a"), 1);
@@ -646,15 +629,15 @@ public final class PromiseTest {
         DUE.fails("find: the 21st, and wrong", ILLEGAL, () -> page.find(65536));
         DUE.is("find: 20 sought", page.find(0), 0);
         DUE.is("find: none sought any more", page.find(1), 1);
-        TextOrder blocks = page("ab");
+        Page blocks = Page.telling("ab");
         blocks.sign('a', 0, 0, 5, 10);
         blocks.sign('b', 0, -100, 5, 10);
         DUE.is("find: over blocks", seek(blocks, "a b"), 1);
-        TextOrder feed = new TextOrder();
+        Page feed = new Page();
         feed.map(0, 1, 10, 32);
         feed.sign(1, 0, 0, 5, 10);
         DUE.is("find: a sign's 10 as 32", seek(feed, " "), 2);
-        TextOrder late = new TextOrder();
+        Page late = new Page();
         late.find('a');
         late.map(0, 'a', 'a', 0);
         late.sign('a', 0, 0, 5, 10);
@@ -662,7 +645,7 @@ public final class PromiseTest {
     }
 
     private static void found() {
-        TextOrder page = rows("abab", "ab");
+        Page page = rows("abab", "ab");
         seek(page, "ab");
         int[] want = {0, 2, 5};
         for (int i = 0; i < want.length; i++) {
@@ -683,7 +666,7 @@ public final class PromiseTest {
     }
 
     private static void area() {
-        TextOrder page = page("a-b");
+        Page page = Page.telling("a-b");
         page.map(0, 'L', 'f', 'i');
         page.sign('L', 0, 0, 5, 10);
         page.sign('-', 5, 0, 5, 10);
@@ -706,7 +689,7 @@ public final class PromiseTest {
     }
 
     private static void thrownChangesNothing() {
-        TextOrder page = rows("ab", "ab");
+        Page page = rows("ab", "ab");
         page.find('b');
         page.find(0);
         page.find('a');
