@@ -3,20 +3,25 @@ import java.util.List;
 import java.util.NoSuchElementException;
 import java.util.Random;
 
-/** Seeded runs: after every change all that the object tells is what the plain model tells. */
+/**
+ * Seeded runs of calls, each object used for no more than 512: after every change some answers are
+ * compared with those of the plain model, and at the end of a run all of them.
+ */
 public final class ModelTest {
     private static final int[] LETTERS = {97, 98, 99, 122, 123, 96, 45, 45, 65, 32, 10, 65533, 65535, 1};
     private static final Due DUE = new Due();
 
     private final Random random;
     private final String name;
-    private final TextOrder order = new TextOrder();
+    private final Page page = new Page();
     private final PlainModel model = new PlainModel();
+    private final List<Told.Question> calls = new ArrayList<>();
     private final List<Integer> sought = new ArrayList<>();
     private List<Integer> found = new ArrayList<>();
     private final long pace;
     private final int codes;
     private final int lineStep;
+    private final long middle;
 
     private ModelTest(int seed) {
         random = new Random(seed);
@@ -24,29 +29,27 @@ public final class ModelTest {
         pace = new long[] {3, 9, 20, 60, 400}[random.nextInt(5)];
         codes = 1 + random.nextInt(6);
         lineStep = 1 + random.nextInt(25);
+        middle = new long[] {0, 0, 0, 999990, -999990}[random.nextInt(5)];
     }
 
     public static void main(String[] args) {
-        for (int seed = 0; seed < 1500; seed++) {
-            new ModelTest(seed).run(seed % 40 == 0 ? 230 : 45);
+        for (int seed = 0; seed < 3000; seed++) {
+            new ModelTest(seed).run(2 + seed % 60);
         }
-        for (int seed = 0; seed < 12; seed++) {
+        for (int seed = 0; seed < 40; seed++) {
             new ModelTest(10000 + seed).fill();
         }
         DUE.end();
     }
 
     private void run(int steps) {
-        for (int step = 0; step < steps; step++) {
+        for (int step = 0; step < steps && page.callsLeft() > 20; step++) {
             change();
-            if (steps < 100 || step % 20 == 0 || step == steps - 1) {
-                compare();
-            }
             wrongCall();
             search();
-            areas();
+            askSome(5);
         }
-        compare();
+        askAll();
     }
 
     /** All 200 signs, then 1 more that is refused. */
@@ -54,13 +57,33 @@ public final class ModelTest {
         for (int i = 0; i < 200; i++) {
             addSign();
         }
-        compare();
         DUE.fails(name + "the 201st sign", UnsupportedOperationException.class,
-                () -> order.sign(0, 0, 0, 0, 1));
+                () -> page.sign(0, 0, 0, 0, 1));
+        askSome(20);
         for (int i = 0; i < 20; i++) {
             change();
+            askSome(3);
         }
-        compare();
+        askAll();
+    }
+
+    private void changes(String what, Told.Question change, long due) {
+        calls(what, change, due);
+        model.tell();
+    }
+
+    /** On the page, and later on each page that is made alike. */
+    private void calls(String what, Told.Question call, long due) {
+        DUE.is(name + what, call.askedOf(page), due);
+        calls.add(call);
+    }
+
+    private Page madeAlike() {
+        Page alike = new Page();
+        for (Told.Question call : calls) {
+            call.askedOf(alike);
+        }
+        return alike;
     }
 
     private void change() {
@@ -71,22 +94,26 @@ public final class ModelTest {
             }
         } else if (what < 13) {
             PlainModel.Sign sign = anySign();
-            boolean on = random.nextInt(3) > 0 ? !sign.turned : sign.turned;
-            DUE.is(name + "turn", order.turn(sign.number, on), sign.turned ? 1 : 0);
-            sign.turned = on;
+            turn(sign, random.nextInt(3) > 0 ? !sign.turned : sign.turned);
         } else if (what < 16) {
             PlainModel.Sign sign = anySign();
+            int had = sign.tag;
             int tag = new int[] {-1, -1, 0, 0, 1, 2, 50, 100}[random.nextInt(8)];
-            DUE.is(name + "tag", order.tag(sign.number, tag), sign.tag);
             sign.tag = tag;
+            changes("tag", p -> p.tag(sign.number, tag), had);
         } else {
             changeMap();
         }
-        model.tell();
     }
 
     private PlainModel.Sign anySign() {
         return model.signs.get(random.nextInt(model.signs.size()));
+    }
+
+    private void turn(PlainModel.Sign sign, boolean on) {
+        int was = sign.turned ? 1 : 0;
+        sign.turned = on;
+        changes("turn", p -> p.turn(sign.number, on), was);
     }
 
     private void addSign() {
@@ -96,13 +123,10 @@ public final class ModelTest {
         sign.width = new long[] {0, 4, 5, 5, 5, 8, 12}[random.nextInt(7)];
         sign.size = new int[] {1, 9, 10, 10, 10, 10, 11, 20}[random.nextInt(8)];
         place(sign);
-        DUE.is(name + "sign", order.sign(sign.code, sign.x, sign.y, sign.width, sign.size), sign.number);
         model.signs.add(sign);
-        model.tell();
+        changes("sign", p -> p.sign(sign.code, sign.x, sign.y, sign.width, sign.size), sign.number);
         if (random.nextInt(5) == 0) {
-            order.turn(sign.number, true);
-            sign.turned = true;
-            model.tell();
+            turn(sign, true);
         }
     }
 
@@ -110,10 +134,20 @@ public final class ModelTest {
     private void place(PlainModel.Sign sign) {
         int how = random.nextInt(10);
         if (model.signs.isEmpty() || how == 0) {
-            sign.x = random.nextInt(200) - 100;
-            sign.y = random.nextInt(200) - 100;
-            return;
+            sign.x = middle + random.nextInt(200) - 100;
+            sign.y = middle + random.nextInt(200) - 100;
+        } else {
+            placeBesideAnother(sign, how);
         }
+        sign.x = onPage(sign.x);
+        sign.y = onPage(sign.y);
+    }
+
+    private static long onPage(long place) {
+        return Math.max(-1000000, Math.min(1000000, place));
+    }
+
+    private void placeBesideAnother(PlainModel.Sign sign, int how) {
         PlainModel.Sign other = how < 6 ? model.signs.get(model.signs.size() - 1) : anySign();
         sign.x = other.x;
         sign.y = other.y;
@@ -135,41 +169,9 @@ public final class ModelTest {
         int first = random.nextInt(5) == 0 ? 0 : LETTERS[random.nextInt(LETTERS.length)];
         int second = first == 0 || random.nextInt(3) > 0 ? 0 : LETTERS[random.nextInt(LETTERS.length)];
         int[] before = model.maps[kind][code];
-        DUE.is(name + "map", order.map(kind, code, first, second), before == null ? 0 : before.length);
         model.maps[kind][code] = first == 0 ? null
                 : second == 0 ? new int[] {first} : new int[] {first, second};
-    }
-
-    private void compare() {
-        DUE.is(name + "length", order.length(), model.text.size());
-        for (int i = 0; i < Math.min(order.length(), model.text.size()); i++) {
-            DUE.is(name + "letter " + i, order.letter(i), model.text.get(i).letter());
-            DUE.is(name + "from " + i, order.from(i), model.text.get(i).from());
-        }
-        for (PlainModel.Sign sign : model.signs) {
-            int s = sign.number;
-            DUE.is(name + "line " + s, order.line(s), sign.line);
-            DUE.is(name + "block " + s, order.block(s), sign.segment == null ? -1 : sign.segment.block);
-            DUE.is(name + "twice " + s, order.twice(s), sign.doubled == null ? -1 : sign.doubled.number);
-            DUE.is(name + "space " + s, order.space(s) ? 1 : 0, sign.space ? 1 : 0);
-        }
-        List<int[]> words = model.words();
-        DUE.is(name + "words", order.word(-1, random.nextInt(5) - 2), words.size());
-        for (int i = 0; i < words.size(); i++) {
-            DUE.is(name + "word begins " + i, order.word(i, 0), words.get(i)[0]);
-            DUE.is(name + "word length " + i, order.word(i, 1), words.get(i)[1]);
-        }
-        DUE.fails(name + "word behind", IndexOutOfBoundsException.class, () -> order.word(words.size(), 0));
-        DUE.fails(name + "letter behind", IndexOutOfBoundsException.class, () -> order.letter(model.text.size()));
-        DUE.fails(name + "from behind", IndexOutOfBoundsException.class, () -> order.from(model.text.size()));
-        compareFound();
-    }
-
-    private void compareFound() {
-        for (int i = 0; i < found.size(); i++) {
-            DUE.is(name + "found " + i, order.found(i), found.get(i));
-        }
-        DUE.fails(name + "found behind", IndexOutOfBoundsException.class, () -> order.found(found.size()));
+        changes("map", p -> p.map(kind, code, first, second), before == null ? 0 : before.length);
     }
 
     private void search() {
@@ -180,20 +182,72 @@ public final class ModelTest {
         int at = model.text.isEmpty() ? 0 : random.nextInt(model.text.size());
         for (int i = 0; i < many && sought.size() < 20; i++) {
             boolean asThere = at + i < model.text.size() && random.nextInt(8) > 0;
-            int c = asThere ? model.text.get(at + i).letter() : LETTERS[random.nextInt(LETTERS.length)];
-            c = c == 10 && random.nextBoolean() ? 32 : c;
+            int there = asThere ? model.text.get(at + i).letter() : LETTERS[random.nextInt(LETTERS.length)];
+            int c = there == 10 && random.nextBoolean() ? 32 : there;
             sought.add(c);
-            DUE.is(name + "find a letter", order.find(c), sought.size());
+            calls("find a letter", p -> p.find(c), sought.size());
         }
         if (random.nextInt(4) > 0) {
             found = model.places(sought);
             sought.clear();
-            DUE.is(name + "find", order.find(0), found.size());
+            calls("find", p -> p.find(0), found.size());
         }
-        compareFound();
     }
 
-    private void areas() {
+    private void askAll() {
+        List<String> got = Told.by(this::madeAlike, model.signs.size());
+        List<String> want = model.told(found);
+        DUE.is(name + "answers", got.size(), want.size());
+        for (int i = 0; i < Math.min(got.size(), want.size()); i++) {
+            DUE.holds(name + got.get(i) + ", due is " + want.get(i), got.get(i).equals(want.get(i)));
+        }
+    }
+
+    private void askSome(int many) {
+        for (int i = 0; i < many && page.callsLeft() > 0; i++) {
+            switch (random.nextInt(4)) {
+                case 0 -> askOfText();
+                case 1 -> askOfASign();
+                case 2 -> askOfWords();
+                default -> askOfAnArea();
+            }
+        }
+    }
+
+    private void askOfText() {
+        int length = model.text.size();
+        int i = random.nextInt(length + 1);
+        if (i == length) {
+            DUE.is(name + "length", page.length(), length);
+        } else if (random.nextBoolean()) {
+            DUE.is(name + "letter " + i, page.letter(i), model.text.get(i).letter());
+        } else {
+            DUE.is(name + "from " + i, page.from(i), model.text.get(i).from());
+        }
+    }
+
+    private void askOfASign() {
+        if (model.signs.isEmpty()) {
+            return;
+        }
+        PlainModel.Sign sign = anySign();
+        int s = sign.number;
+        switch (random.nextInt(4)) {
+            case 0 -> DUE.is(name + "line " + s, page.line(s), sign.line);
+            case 1 -> DUE.is(name + "block " + s, page.block(s), sign.block());
+            case 2 -> DUE.is(name + "twice " + s, page.twice(s), sign.doubledOne());
+            default -> DUE.is(name + "space " + s, page.space(s) ? 1 : 0, sign.space ? 1 : 0);
+        }
+    }
+
+    private void askOfWords() {
+        List<int[]> words = model.words();
+        int i = random.nextInt(words.size() + 1) - 1;
+        int what = i < 0 ? random.nextInt(5) - 2 : random.nextInt(2);
+        DUE.is(name + "word " + i, page.word(i, what), i < 0 ? words.size() : words.get(i)[what]);
+    }
+
+    private void askOfAnArea() {
         long x = random.nextInt(200) - 100;
         long y = random.nextInt(200) - 100;
         if (!model.signs.isEmpty() && random.nextBoolean()) {
@@ -202,9 +256,7 @@ public final class ModelTest {
         }
         long x2 = x + random.nextInt(150) - 10;
         long y2 = y + random.nextInt(150) - 10;
-        DUE.is(name + "area", order.area(x, y, x2, y2), model.area(x, y, x2, y2));
-        DUE.is(name + "all", order.area(Long.MIN_VALUE, Long.MIN_VALUE, Long.MAX_VALUE, Long.MAX_VALUE),
-                model.area(Long.MIN_VALUE, Long.MIN_VALUE, Long.MAX_VALUE, Long.MAX_VALUE));
+        DUE.is(name + "area", page.area(x, y, x2, y2), model.area(x, y, x2, y2));
     }
 
     /** Refused, with no trace: what is compared later is as without it. */
@@ -212,16 +264,16 @@ public final class ModelTest {
         int none = random.nextBoolean() ? model.signs.size() : -1 - random.nextInt(3);
         switch (random.nextInt(8)) {
             case 0 -> DUE.fails(name + "wrong sign", IllegalArgumentException.class,
-                    () -> order.sign(256, 0, 0, 5, 10));
-            case 1 -> DUE.fails(name + "wrong turn", NoSuchElementException.class, () -> order.turn(none, true));
+                    () -> page.sign(256, 0, 0, 5, 10));
+            case 1 -> DUE.fails(name + "wrong turn", NoSuchElementException.class, () -> page.turn(none, true));
             case 2 -> DUE.fails(name + "wrong map", IndexOutOfBoundsException.class,
-                    () -> order.map(4, 65, 70000, 0));
+                    () -> page.map(4, 65, 70000, 0));
             case 3 -> DUE.fails(name + "wrong letter", IllegalArgumentException.class,
-                    () -> order.map(0, 65, 0, 7));
-            case 4 -> DUE.fails(name + "wrong tag", NoSuchElementException.class, () -> order.tag(none, 500));
-            case 5 -> DUE.fails(name + "wrong line", NoSuchElementException.class, () -> order.line(none));
-            case 6 -> DUE.fails(name + "wrong find", IllegalArgumentException.class, () -> order.find(65536));
-            default -> DUE.fails(name + "wrong block", NoSuchElementException.class, () -> order.block(none));
+                    () -> page.map(0, 65, 0, 7));
+            case 4 -> DUE.fails(name + "wrong tag", NoSuchElementException.class, () -> page.tag(none, 500));
+            case 5 -> DUE.fails(name + "wrong line", NoSuchElementException.class, () -> page.line(none));
+            case 6 -> DUE.fails(name + "wrong find", IllegalArgumentException.class, () -> page.find(65536));
+            default -> DUE.fails(name + "wrong block", NoSuchElementException.class, () -> page.block(none));
         }
     }
 }

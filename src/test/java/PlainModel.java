@@ -1,6 +1,7 @@
 import java.util.ArrayList;
 import java.util.Comparator;
 import java.util.List;
+import java.util.NoSuchElementException;
 
 /** The document's Terms, word by word, with no thought of speed or room; answers only. */
 final class PlainModel {
@@ -26,6 +27,14 @@ final class PlainModel {
 
         long v() {
             return turned ? -x : y;
+        }
+
+        int block() {
+            return segment == null ? -1 : segment.block;
+        }
+
+        int doubledOne() {
+            return doubled == null ? -1 : doubled.number;
         }
     }
 
@@ -301,5 +310,43 @@ final class PlainModel {
             }
         }
         return inside;
+    }
+
+    /** All answers, in the lines and the order of Told.by. */
+    List<String> told(List<Integer> found) {
+        List<String> lines = new ArrayList<>();
+        lines.add(Told.line("length", text.size()));
+        row(lines, "letter ", text.stream().map(Letter::letter).toList());
+        row(lines, "from ", text.stream().map(Letter::from).toList());
+        List<int[]> words = words();
+        lines.add(Told.line("words", words.size()));
+        row(lines, "word begins ", words.stream().map(word -> word[0]).toList());
+        row(lines, "word has ", words.stream().map(word -> word[1]).toList());
+        toldOfSigns(lines);
+        row(lines, "found ", found);
+        for (long far : new long[] {0, 10, 100, 1000000}) {
+            lines.add(Told.line("area " + far, area(-far, -far, far, far)));
+        }
+        return lines;
+    }
+
+    private static void row(List<String> lines, String what, List<Integer> answers) {
+        for (int i = 0; i < answers.size(); i++) {
+            lines.add(Told.line(what + i, answers.get(i)));
+        }
+        lines.add(Told.refused(what + answers.size(), IndexOutOfBoundsException.class));
+    }
+
+    private void toldOfSigns(List<String> lines) {
+        for (Sign sign : signs) {
+            int s = sign.number;
+            lines.add(Told.line("line " + s, sign.line));
+            lines.add(Told.line("block " + s, sign.block()));
+            lines.add(Told.line("twice " + s, sign.doubledOne()));
+            lines.add(Told.line("space " + s, sign.space ? 1 : 0));
+        }
+        for (String what : new String[] {"line ", "block ", "twice ", "space "}) {
+            lines.add(Told.refused(what + signs.size(), NoSuchElementException.class));
+        }
     }
 }
