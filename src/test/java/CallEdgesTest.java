@@ -62,12 +62,6 @@ public final class CallEdgesTest {
         return page;
     }
 
-    private static void reads(String what, Page page, String want) {
-        String got = page.text();
-        DUE.holds(what + " reads '" + got.replace('\n', '|') + "', due is '" + want.replace('\n', '|') + "'",
-                got.equals(want));
-    }
-
     /** Promise 1: "No signs, no letters are told." */
     private static void newObjectHasNoSigns() {
         Page page = new Page();
@@ -269,7 +263,7 @@ public final class CallEdgesTest {
         page.map(0, 7, 'a', 'b');
         DUE.fails("map: 0 and a second", ILLEGAL, () -> page.map(0, 7, 0, 1));
         DUE.fails("map: 0 and the greatest second", ILLEGAL, () -> page.map(0, 7, 0, 65535));
-        reads("map: still two", page, "ab");
+        DUE.reads("map: still two", page, "ab");
         page.map(0, 7, 0, 0);
         DUE.is("map: one letter", page.length(), 1);
         DUE.is("map: that of a code that none tells", page.letter(0), 65533);
@@ -348,7 +342,7 @@ public final class CallEdgesTest {
         page.sign('b', 12, 0, 5, 10);
         page.sign('a', 0, -12, 5, 10);
         page.sign('b', 0, -100, 5, 10);
-        reads("from: text", page, "a \n b a\nb");
+        DUE.reads("from: text", page, "a \n b a\nb");
         int[] want = {0, 1, 1, -1, 2, -1, 3, -1, 4};
         for (int i = 0; i < want.length; i++) {
             DUE.is("from " + i, page.from(i), want[i]);
@@ -656,10 +650,10 @@ public final class CallEdgesTest {
         page.sign('a', 0, 0, 5, 10);
         page.sign('a', 0, 0, 5, 10);
         page.sign('L', 8, 0, 5, 10);
-        reads("area: text", page, "a f-");
+        DUE.reads("area: text", page, "a f-");
         DUE.is("area: three letters", page.area(0, 0, 8, 0), 3);
         page.sign('b', 0, -12, 5, 10);
-        reads("area: joined", page, "a fb");
+        DUE.reads("area: joined", page, "a fb");
         DUE.is("area: one is joined", page.area(0, 0, 8, 0), 2);
         DUE.is("area: its sign has one left", page.area(8, 0, 8, 0), 1);
         DUE.is("area: where a double lies", page.area(0, 0, 0, 0), 1);

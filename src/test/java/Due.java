@@ -19,6 +19,15 @@ final class Due {
         is(what, holds ? 1 : 0, 1);
     }
 
+    void reads(String what, Page page, String want) {
+        String got = page.text();
+        holds(what + " reads '" + shown(got) + "', due is '" + shown(want) + "'", got.equals(want));
+    }
+
+    private static String shown(String text) {
+        return text.replace('\n', '|');
+    }
+
     /** The exception must be of this very class: one above or below it is not as due. */
     void fails(String what, Class<? extends RuntimeException> want, Call call) {
         asked++;

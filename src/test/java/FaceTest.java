@@ -46,6 +46,11 @@ public final class FaceTest {
                 due.holds(method + " is private", Modifier.isPrivate(method.getModifiers()));
             }
         }
+        for (Method method : face.getDeclaredMethods()) {
+            boolean isSeen = Modifier.isPublic(method.getModifiers());
+            due.holds(method + " has no name of the face", isSeen || !names.contains(method.getName()));
+            due.holds(method + " takes at most seven", method.getParameterCount() <= 7);
+        }
         List<String> want = new ArrayList<>(List.of(FACE));
         Collections.sort(seen);
         Collections.sort(want);

@@ -1,4 +1,5 @@
 import java.util.ArrayList;
+import java.util.Collections;
 import java.util.List;
 import java.util.NoSuchElementException;
 import java.util.Random;
@@ -39,6 +40,9 @@ public final class ModelTest {
         for (int seed = 0; seed < 40; seed++) {
             new ModelTest(10000 + seed).fill();
         }
+        for (int seed = 0; seed < 400; seed++) {
+            new ModelTest(20000 + seed).layOut();
+        }
         DUE.end();
     }
 
@@ -65,6 +69,68 @@ public final class ModelTest {
             askSome(3);
         }
         askAll();
+    }
+
+    /**
+     * A page of columns with paragraphs of lines of words, whose gaps lie about the least ones that
+     * cut, part and make spaces; its signs come in no order, some pages are turned.
+     */
+    private void layOut() {
+        int columns = 1 + random.nextInt(4);
+        int rows = 1 + random.nextInt(4);
+        List<PlainModel.Sign> laid = new ArrayList<>();
+        if (random.nextBoolean()) {
+            layRow(laid, 0, 30, random.nextInt(40), 1 + random.nextInt(6));
+        }
+        for (int column = 0; column < columns; column++) {
+            long v = -random.nextInt(3) * 4L;
+            long u = column * (60L + random.nextInt(30));
+            for (int row = 0; row < rows; row++) {
+                layRow(laid, u + random.nextInt(3), v, 0, 1 + random.nextInt(6));
+                v -= new long[] {10, 12, 15, 19, 20, 21, 30}[random.nextInt(7)];
+            }
+        }
+        Collections.shuffle(laid, random);
+        boolean turned = random.nextInt(4) == 0;
+        for (PlainModel.Sign sign : laid.subList(0, Math.min(laid.size(), 90))) {
+            putDown(sign, turned != (random.nextInt(30) == 0));
+        }
+        changeMap();
+        changeMap();
+        for (int i = 0; i < 10; i++) {
+            change();
+            search();
+            askSome(2);
+        }
+        askAll();
+    }
+
+    /** Signs along one line, as wide apart as nothing, a SPACE or a cut asks for. */
+    private void layRow(List<PlainModel.Sign> laid, long left, long v, long extra, int many) {
+        long u = left;
+        for (int i = 0; i < many; i++) {
+            PlainModel.Sign sign = new PlainModel.Sign();
+            sign.code = 65 + random.nextInt(codes);
+            sign.width = new long[] {5, 5, 5, 8, 20 + extra}[random.nextInt(5)];
+            sign.size = random.nextInt(6) == 0 ? 9 + random.nextInt(4) : 10;
+            sign.x = u;
+            sign.y = v - (random.nextInt(8) == 0 ? random.nextInt(6) : 0);
+            laid.add(sign);
+            u += sign.width + new long[] {0, 0, 1, 2, 3, 29, 30, 31}[random.nextInt(8)];
+        }
+    }
+
+    private void putDown(PlainModel.Sign sign, boolean turned) {
+        long u = sign.x;
+        long v = sign.y;
+        sign.number = model.signs.size();
+        sign.x = turned ? -v : u;
+        sign.y = turned ? u : v;
+        model.signs.add(sign);
+        changes("sign", p -> p.sign(sign.code, sign.x, sign.y, sign.width, sign.size), sign.number);
+        if (turned) {
+            turn(sign, true);
+        }
     }
 
     private void changes(String what, Told.Question change, long due) {

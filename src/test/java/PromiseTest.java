@@ -39,12 +39,6 @@ public final class PromiseTest {
         DUE.end();
     }
 
-    private static void reads(String what, Page page, String want) {
-        String got = page.text();
-        DUE.holds(what + " reads '" + got.replace('\n', '|') + "', due is '" + want.replace('\n', '|') + "'",
-                got.equals(want));
-    }
-
     private static void newObject() {
         Page page = new Page();
         DUE.is("new: length", page.length(), 0);
@@ -96,13 +90,13 @@ public final class PromiseTest {
         Page page = Page.telling("ab");
         page.sign('a', 0, 0, 5, 10);
         page.sign('b', 5, 0, 5, 10);
-        reads("turn: none", page, "ab");
+        DUE.reads("turn: none", page, "ab");
         DUE.is("turn: on", page.turn(0, true), 0);
-        reads("turn: turned ones come later", page, "b\na");
+        DUE.reads("turn: turned ones come later", page, "b\na");
         DUE.is("turn: on again", page.turn(0, true), 1);
         DUE.is("turn: off", page.turn(0, false), 1);
         DUE.is("turn: off again", page.turn(0, false), 0);
-        reads("turn: back", page, "ab");
+        DUE.reads("turn: back", page, "ab");
         DUE.fails("turn: -1", NO_SIGN, () -> page.turn(-1, true));
         DUE.fails("turn: behind", NO_SIGN, () -> page.turn(2, true));
     }
@@ -134,16 +128,16 @@ public final class PromiseTest {
         page.sign(9, 0, 0, 5, 10);
         DUE.is("rank: unknown", page.letter(0), 65533);
         page.map(3, 9, 'd', 'D');
-        reads("rank: map 3", page, "dD");
+        DUE.reads("rank: map 3", page, "dD");
         page.map(1, 9, 'b', 0);
-        reads("rank: map 1 before 3", page, "b");
+        DUE.reads("rank: map 1 before 3", page, "b");
         page.map(2, 9, 'c', 0);
-        reads("rank: map 2 behind 1", page, "b");
+        DUE.reads("rank: map 2 behind 1", page, "b");
         page.map(0, 9, 'a', 'A');
-        reads("rank: map 0", page, "aA");
+        DUE.reads("rank: map 0", page, "aA");
         page.map(0, 9, 0, 0);
         page.map(1, 9, 0, 0);
-        reads("rank: map 2 left", page, "c");
+        DUE.reads("rank: map 2 left", page, "c");
         page.map(2, 9, 0, 0);
         page.map(3, 9, 0, 0);
         DUE.is("rank: none left", page.letter(0), 65533);
@@ -154,15 +148,15 @@ public final class PromiseTest {
         for (int i = 0; i < 4; i++) {
             page.sign("abcd".charAt(i), 0, -i * 12, 5, 10);
         }
-        reads("tag: none", page, "a b c d");
+        DUE.reads("tag: none", page, "a b c d");
         DUE.is("tag: had none", page.tag(3, 100), -1);
-        reads("tag: d first", page, "d\na b c");
+        DUE.reads("tag: d first", page, "d\na b c");
         DUE.is("tag: c", page.tag(2, 0), -1);
-        reads("tag: c before d", page, "c\nd\na b");
+        DUE.reads("tag: c before d", page, "c\nd\na b");
         DUE.is("tag: had 100", page.tag(3, 0), 100);
-        reads("tag: one tag, in this order", page, "c d\na b");
+        DUE.reads("tag: one tag, in this order", page, "c d\na b");
         DUE.is("tag: gone", page.tag(2, -1), 0);
-        reads("tag: only d", page, "d\na b c");
+        DUE.reads("tag: only d", page, "d\na b c");
         DUE.is("tag: no effect on lines", page.line(3), 3);
         DUE.is("tag: no effect on blocks", page.block(3), 0);
         DUE.fails("tag: -2", ILLEGAL, () -> page.tag(0, -2));
@@ -176,15 +170,15 @@ public final class PromiseTest {
         page.sign('a', 0, 0, 5, 10);
         page.sign('b', 7, 0, 5, 10);
         page.sign('c', 12, 0, 5, 10);
-        reads("segment: no tags", page, "a bc");
+        DUE.reads("segment: no tags", page, "a bc");
         page.tag(1, 5);
-        reads("segment: one taken out", page, "b\na\nc");
+        DUE.reads("segment: one taken out", page, "b\na\nc");
         page.tag(2, 6);
-        reads("segment: the next, of another tag", page, "bc\na");
+        DUE.reads("segment: the next, of another tag", page, "bc\na");
         page.tag(0, 4);
-        reads("segment: three tags", page, "a bc");
+        DUE.reads("segment: three tags", page, "a bc");
         page.tag(0, 7);
-        reads("segment: the first one last", page, "bc\na");
+        DUE.reads("segment: the first one last", page, "bc\na");
     }
 
     private static void lengthLetterFrom() {
@@ -219,28 +213,28 @@ public final class PromiseTest {
     }
 
     private static void hyphens() {
-        reads("hyphen: joined", twoLines('x', '-', 'a'), "xa");
-        reads("hyphen: joined with z", twoLines('x', '-', 'z'), "xz");
-        reads("hyphen: before a", twoLines('x', '-', 96), "x- `");
-        reads("hyphen: behind z", twoLines('x', '-', 123), "x- {");
-        reads("hyphen: before a great letter", twoLines('x', '-', 'A'), "x- A");
-        reads("hyphen: not the last letter", twoLines('-', 'x', 'a'), "-x a");
-        reads("hyphen: the only letter", twoLines('-', 0, 'a'), "a");
+        DUE.reads("hyphen: joined", twoLines('x', '-', 'a'), "xa");
+        DUE.reads("hyphen: joined with z", twoLines('x', '-', 'z'), "xz");
+        DUE.reads("hyphen: before a", twoLines('x', '-', 96), "x- `");
+        DUE.reads("hyphen: behind z", twoLines('x', '-', 123), "x- {");
+        DUE.reads("hyphen: before a great letter", twoLines('x', '-', 'A'), "x- A");
+        DUE.reads("hyphen: not the last letter", twoLines('-', 'x', 'a'), "-x a");
+        DUE.reads("hyphen: the only letter", twoLines('-', 0, 'a'), "a");
         DUE.is("hyphen: from", twoLines('-', 0, 'a').from(0), 1);
-        reads("hyphen: only one of two goes", twoLines('-', '-', 'a'), "-a");
+        DUE.reads("hyphen: only one of two goes", twoLines('-', '-', 'a'), "-a");
         Page blocks = Page.telling("-a");
         blocks.sign('-', 0, 0, 5, 10);
         blocks.sign('a', 0, -100, 5, 10);
-        reads("hyphen: not over blocks", blocks, "-\na");
+        DUE.reads("hyphen: not over blocks", blocks, "-\na");
         Page tags = twoLines('x', '-', 'a');
         tags.tag(0, 3);
-        reads("hyphen: not over tags", tags, "x-\na");
+        DUE.reads("hyphen: not over tags", tags, "x-\na");
         tags.tag(1, 3);
-        reads("hyphen: in one tag", tags, "xa");
+        DUE.reads("hyphen: in one tag", tags, "xa");
         Page row = Page.telling("-a");
         row.sign('-', 0, 0, 5, 10);
         row.sign('a', 5, 0, 5, 10);
-        reads("hyphen: not in a segment", row, "-a");
+        DUE.reads("hyphen: not in a segment", row, "-a");
     }
 
     private static void line() {
@@ -270,7 +264,7 @@ public final class PromiseTest {
         back.sign('c', 10, 0, 5, 10);
         back.sign('b', 5, 0, 5, 10);
         back.sign('a', 0, 0, 5, 10);
-        reads("line: by u", back, "abc");
+        DUE.reads("line: by u", back, "abc");
         Page heads = Page.telling("abc");
         heads.sign('a', 10, 0, 5, 20);
         heads.sign('b', 0, 0, 5, 2);
@@ -281,7 +275,7 @@ public final class PromiseTest {
         same.sign('b', 0, 0, 5, 20);
         same.sign('c', 20, -5, 5, 10);
         DUE.is("line: of one u, the least number is head", same.line(2), 1);
-        reads("line: of one u, by number", same, "ab c");
+        DUE.reads("line: of one u, by number", same, "ab c");
     }
 
     private static void turnedLines() {
@@ -298,7 +292,7 @@ public final class PromiseTest {
         DUE.is("turned: x grows downward", page.line(2), 2);
         DUE.is("turned: not turned first", page.line(3), 0);
         DUE.is("turned: block", page.block(0), 1);
-        reads("turned: text", page, "d\nab c");
+        DUE.reads("turned: text", page, "d\nab c");
     }
 
     private static void segmentsAndSpaces() {
@@ -316,13 +310,13 @@ public final class PromiseTest {
         }
         DUE.is("cut: block before", page.block(3), 0);
         DUE.is("cut: block behind", page.block(4), 1);
-        reads("cut: text", page, "a bc d\nefg");
+        DUE.reads("cut: text", page, "a bc d\nefg");
         DUE.fails("space: -1", NO_SIGN, () -> page.space(-1) ? 1 : 0);
         DUE.fails("space: behind", NO_SIGN, () -> page.space(7) ? 1 : 0);
         Page thin = Page.telling("ab");
         thin.sign('a', 0, 0, 0, 10);
         thin.sign('b', 29, 0, 5, 10);
-        reads("space: none without a width", thin, "ab");
+        DUE.reads("space: none without a width", thin, "ab");
         thin.sign('b', 60, 0, 5, 5);
         DUE.is("space: cut without a width at 3 sizes of its own", thin.block(2), 0);
         Page none = Page.telling("ab");
@@ -332,7 +326,7 @@ public final class PromiseTest {
         Page one = Page.telling("ab");
         one.sign('a', 0, 0, 1, 10);
         one.sign('b', 2, 0, 5, 10);
-        reads("space: of a gap and a width of 1", one, "a b");
+        DUE.reads("space: of a gap and a width of 1", one, "a b");
         one.sign('a', 1, 0, 1, 10);
         DUE.is("space: gone when the gap is filled", one.space(0) ? 1 : 0, 0);
         Page over = Page.telling("ab");
@@ -355,10 +349,10 @@ public final class PromiseTest {
         for (int i = 0; i < 4; i++) {
             DUE.is("across: block of " + i, page.block(i), want[i]);
         }
-        reads("across: text", page, "a c\nb d");
+        DUE.reads("across: text", page, "a c\nb d");
         page.sign('a', 0, 12, 16, 10);
         DUE.is("across: 19 is less than twice the size", page.block(1), 0);
-        reads("across: text of one block", page, "a a b c d");
+        DUE.reads("across: text of one block", page, "a a b c d");
         Page twenty = Page.telling("abcd");
         twenty.sign('a', 0, 0, 5, 10);
         twenty.sign('b', 35, 0, 5, 10);
@@ -379,15 +373,15 @@ public final class PromiseTest {
         for (int i = 0; i < 3; i++) {
             DUE.is("down: block of " + i, page.block(i), want[i]);
         }
-        reads("down: text", page, "a\nb c");
+        DUE.reads("down: text", page, "a\nb c");
         Page order = Page.telling("ab");
         order.sign('a', 0, -50, 5, 10);
         order.sign('b', 100, 0, 5, 10);
-        reads("down: left before right goes first", order, "a\nb");
+        DUE.reads("down: left before right goes first", order, "a\nb");
         Page upper = Page.telling("ab");
         upper.sign('a', 0, -50, 5, 10);
         upper.sign('b', 10, 0, 5, 10);
-        reads("down: upper first", upper, "b\na");
+        DUE.reads("down: upper first", upper, "b\na");
     }
 
     /** A heading over two columns, the left one with a gap in it. */
@@ -402,7 +396,7 @@ public final class PromiseTest {
         for (int i = 0; i < 5; i++) {
             DUE.is("within: block of " + i, page.block(i), want[i]);
         }
-        reads("within: text", page, "h\na\nc\nb d");
+        DUE.reads("within: text", page, "h\na\nc\nb d");
     }
 
     /** A heading over two rows of two columns: which gap parts first tells what comes next. */
@@ -417,10 +411,10 @@ public final class PromiseTest {
     }
 
     private static void blocksByTheWidestGap() {
-        reads("widest: the lower gap", headingAndRows(-30, -61), "h\na\nb\nc\nd");
-        reads("widest: the upper gap", headingAndRows(-31, -61), "h\na\nc\nb\nd");
-        reads("widest: of equal ones the first", headingAndRows(-30, -60), "h\na\nc\nb\nd");
-        reads("widest: the lower gap alone", headingAndRows(-12, -61), "h a b\nc\nd");
+        DUE.reads("widest: the lower gap", headingAndRows(-30, -61), "h\na\nb\nc\nd");
+        DUE.reads("widest: the upper gap", headingAndRows(-31, -61), "h\na\nc\nb\nd");
+        DUE.reads("widest: of equal ones the first", headingAndRows(-30, -60), "h\na\nc\nb\nd");
+        DUE.reads("widest: the lower gap alone", headingAndRows(-12, -61), "h a b\nc\nd");
     }
 
     /** What a segment's later signs reach counts, not only its first or last one's. */
@@ -467,15 +461,15 @@ public final class PromiseTest {
         page.sign('a', 0, 0, 45, 10);
         page.sign('b', 45, 0, 5, 10);
         DUE.is("by lines: one block", page.block(1), 0);
-        reads("by lines: text", page, "ab c d");
+        DUE.reads("by lines: text", page, "ab c d");
         Page first = Page.telling("abc");
         first.sign('a', 0, 0, 5, 10);
         first.sign('b', 35, 0, 5, 10);
         first.sign('c', 70, 0, 5, 10);
-        reads("equal gaps: text", first, "a\nb\nc");
+        DUE.reads("equal gaps: text", first, "a\nb\nc");
         first.sign('a', 0, -20, 5, 10);
         first.sign('b', 35, -40, 5, 10);
-        reads("equal gaps: columns first", first, "a\na\nb\nb\nc");
+        DUE.reads("equal gaps: columns first", first, "a\na\nb\nb\nc");
     }
 
     /** Each gap is the widest of those left, from either end: 200 partings, one within another. */
@@ -538,7 +532,7 @@ public final class PromiseTest {
         passed.sign('a', 0, 0, 5, 10);
         passed.sign('a', 1, 0, 100, 1000);
         passed.sign('b', 20, 0, 5, 10);
-        reads("twice: passed in all that follows", passed, "a b");
+        DUE.reads("twice: passed in all that follows", passed, "a b");
         Page turned = Page.telling("a");
         turned.sign('a', 0, 0, 4, 40);
         turned.sign('a', 10, 1, 4, 40);
@@ -572,7 +566,7 @@ public final class PromiseTest {
         for (int i = 0; i < codes.length(); i++) {
             page.sign(codes.charAt(i), i * 5, 0, 5, 10);
         }
-        reads("word: text", page, " ab c  x\nd ");
+        DUE.reads("word: text", page, " ab c  x\nd ");
         int[][] want = {{1, 2}, {4, 1}, {7, 1}, {9, 1}};
         DUE.is("word: how many", page.word(-1, 0), want.length);
         DUE.is("word: how many, whatever is asked", page.word(-1, -5), want.length);
@@ -612,7 +606,7 @@ public final class PromiseTest {
 
     private static void find() {
         Page page = rows("aaab", "ab");
-        reads("find: text", page, "aaab ab");
+        DUE.reads("find: text", page, "aaab ab");
         DUE.is("find: overlapping", seek(page, "aa"), 2);
         DUE.is("find: over lines", seek(page, "b a"), 1);
         DUE.is("find: 10 sought is as 32", seek(page, "b\na"), 1);
@@ -673,7 +667,7 @@ public final class PromiseTest {
         page.sign('b', 0, -12, 5, 10);
         page.sign('a', 7, -12, 5, 10);
         page.sign('a', 7, -12, 5, 10);
-        reads("area: text", page, "fib a");
+        DUE.reads("area: text", page, "fib a");
         DUE.is("area: the joined one is gone", page.area(0, 0, 5, 0), 2);
         DUE.is("area: all", page.area(Long.MIN_VALUE, Long.MIN_VALUE, Long.MAX_VALUE, Long.MAX_VALUE), 4);
         DUE.is("area: one place", page.area(7, -12, 7, -12), 1);
@@ -699,7 +693,7 @@ public final class PromiseTest {
         DUE.fails("thrown: tag", ILLEGAL, () -> page.tag(1, 200));
         DUE.fails("thrown: turn", NO_SIGN, () -> page.turn(4, true));
         DUE.fails("thrown: find", ILLEGAL, () -> page.find(-7));
-        reads("thrown: text", page, "ab ab");
+        DUE.reads("thrown: text", page, "ab ab");
         DUE.is("thrown: found", page.found(1), 4);
         DUE.is("thrown: sought", page.find('b'), 2);
         DUE.is("thrown: find", page.find(0), 2);

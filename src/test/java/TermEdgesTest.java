@@ -37,12 +37,6 @@ public final class TermEdgesTest {
         DUE.end();
     }
 
-    private static void reads(String what, Page page, String want) {
-        String got = page.text();
-        DUE.holds(what + " reads '" + got.replace('\n', '|') + "', due is '" + want.replace('\n', '|') + "'",
-                got.equals(want));
-    }
-
     /** Puts a sign at (u, v), turned or not. */
     private static int put(Page page, int code, long u, long v, long width, int size, boolean turned) {
         if (!turned) {
@@ -67,11 +61,11 @@ public final class TermEdgesTest {
         for (int i = 0; i < 4; i++) {
             DUE.is("turned: line of " + i, page.line(i), lines[i]);
         }
-        reads("turned: y, then x", page, "ab c d");
+        DUE.reads("turned: y, then x", page, "ab c d");
         for (int i = 0; i < 4; i++) {
             page.turn(i, false);
         }
-        reads("turned back: x, then y", page, "bd ac");
+        DUE.reads("turned back: x, then y", page, "bd ac");
     }
 
     /** "by the first of the MAPS 0 .. 3 that tells it". */
@@ -81,13 +75,13 @@ public final class TermEdgesTest {
                 Page page = new Page();
                 page.sign(255, 0, 0, 5, 10);
                 page.map(later, 255, 'x', 'y');
-                reads("map " + later + " alone", page, "xy");
+                DUE.reads("map " + later + " alone", page, "xy");
                 page.map(first, 255, 'a', 0);
-                reads("map " + first + " before map " + later, page, "a");
+                DUE.reads("map " + first + " before map " + later, page, "a");
                 page.map(later, 255, 'z', 0);
-                reads("map " + later + " told behind it", page, "a");
+                DUE.reads("map " + later + " told behind it", page, "a");
                 page.map(first, 255, 0, 0);
-                reads("map " + first + " tells none any more", page, "z");
+                DUE.reads("map " + first + " tells none any more", page, "z");
             }
         }
     }
@@ -264,9 +258,9 @@ public final class TermEdgesTest {
             DUE.is("double: block of " + i, page.block(i), blocks[i]);
         }
         DUE.is("double: the gap is behind the one", page.space(0) ? 1 : 0, 1);
-        reads("double: text", page, "a b\nc");
+        DUE.reads("double: text", page, "a b\nc");
         page.tag(1, 0);
-        reads("double: its tag counts nothing", page, "a b\nc");
+        DUE.reads("double: its tag counts nothing", page, "a b\nc");
         DUE.is("double: area", page.area(1, 2, 1, 2), 0);
     }
 
@@ -349,7 +343,7 @@ public final class TermEdgesTest {
         page.sign('e', 10, 5, 0, 10);
         page.sign('c', 0, 5, 0, 10);
         page.sign('a', -1, 2, 0, 10);
-        reads("line: by u, then by number", page, "abcde");
+        DUE.reads("line: by u, then by number", page, "abcde");
     }
 
     /** "LINES 0, 1, ..: first of signs that are not turned, then of turned ones". */
@@ -477,6 +471,6 @@ public final class TermEdgesTest {
         page.sign('b', 35, 0, 5, 10);
         DUE.is("cut: no space", page.space(1) ? 1 : 0, 0);
         DUE.is("cut: though one block", page.block(2), page.block(1));
-        reads("cut: text", page, "h a b");
+        DUE.reads("cut: text", page, "h a b");
     }
 }

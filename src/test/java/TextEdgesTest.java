@@ -44,12 +44,6 @@ public final class TextEdgesTest {
         DUE.end();
     }
 
-    private static void reads(String what, Page page, String want) {
-        String got = page.text();
-        DUE.holds(what + " reads '" + got.replace('\n', '|') + "', due is '" + want.replace('\n', '|') + "'",
-                got.equals(want));
-    }
-
     private static void blocksAre(String what, Page page, int... want) {
         for (int i = 0; i < want.length; i++) {
             DUE.is(what + ": block of " + i, page.block(i), want[i]);
@@ -134,8 +128,8 @@ public final class TextEdgesTest {
         blocksAre("across: gap 0", beside(1, 1, 0, false), 0, 0);
         blocksAre("across: gap 1", beside(1, 1, 1, false), 0, 0);
         blocksAre("across: overlapping", beside(1, 1, -3, false), 0, 0);
-        reads("across: parted", beside(10, 10, 20, false), "a\nb");
-        reads("across: not parted", beside(10, 10, 19, false), "a b");
+        DUE.reads("across: parted", beside(10, 10, 20, false), "a\nb");
+        DUE.reads("across: not parted", beside(10, 10, 19, false), "a b");
     }
 
     /** "the greatest size of all their signs": of the one before and the one behind the gap. */
@@ -191,8 +185,8 @@ public final class TextEdgesTest {
             }
         }
         blocksAre("down: gap 0", below(1, 1, 0, false), 0, 0);
-        reads("down: parted", below(10, 10, 10, false), "a\nb");
-        reads("down: not parted", below(10, 10, 9, false), "a b");
+        DUE.reads("down: parted", below(10, 10, 10, false), "a\nb");
+        DUE.reads("down: not parted", below(10, 10, 9, false), "a b");
     }
 
     private static void downByTheGreatestSize() {
@@ -225,13 +219,13 @@ public final class TextEdgesTest {
         page.sign('b', 25, 0, 5, 10);
         page.sign('c', 0, -500, 5, 10);
         page.sign('d', 25, -500, 5, 10);
-        reads("across: a space is no gap between segments", page, "a b\nc d");
+        DUE.reads("across: a space is no gap between segments", page, "a b\nc d");
         Page cut = Page.telling("abcd");
         cut.sign('a', 0, 0, 5, 10);
         cut.sign('b', 35, 0, 5, 10);
         cut.sign('c', 0, -500, 5, 10);
         cut.sign('d', 35, -500, 5, 10);
-        reads("across: before a far wider gap down", cut, "a\nc\nb\nd");
+        DUE.reads("across: before a far wider gap down", cut, "a\nc\nb\nd");
         blocksAre("across: before a far wider gap down", cut, 0, 2, 1, 3);
     }
 
@@ -244,7 +238,7 @@ public final class TextEdgesTest {
         page.sign('c', 0, -40, 5, 10);
         page.sign('d', 40, -40, 5, 10);
         blocksAre("within: heading, then columns", page, 0, 1, 3, 2, 4);
-        reads("within: text", page, "h\na\nc\nb\nd");
+        DUE.reads("within: text", page, "h\na\nc\nb\nd");
     }
 
     /** "the greatest size of all their signs": of those that are parted, not of all the page. */
@@ -288,17 +282,17 @@ public final class TextEdgesTest {
 
     /** "the widest one ... parts those before it from those behind it". */
     private static void downByTheWidestGap() {
-        reads("widest: the upper gap by 1", headingAndRows(31, 30), "h\na\nc\nb\nd");
-        reads("widest: the lower gap by 1", headingAndRows(30, 31), "h\na\nb\nc\nd");
-        reads("widest: the upper gap alone is enough", headingAndRows(10, 9), "h\na c\nb d");
-        reads("widest: the lower gap alone is enough", headingAndRows(9, 10), "h a b\nc\nd");
-        reads("widest: none is enough", headingAndRows(9, 9), "h a b c d");
+        DUE.reads("widest: the upper gap by 1", headingAndRows(31, 30), "h\na\nc\nb\nd");
+        DUE.reads("widest: the lower gap by 1", headingAndRows(30, 31), "h\na\nb\nc\nd");
+        DUE.reads("widest: the upper gap alone is enough", headingAndRows(10, 9), "h\na c\nb d");
+        DUE.reads("widest: the lower gap alone is enough", headingAndRows(9, 10), "h a b\nc\nd");
+        DUE.reads("widest: none is enough", headingAndRows(9, 9), "h a b c d");
     }
 
     /** "of these the first". */
     private static void downByTheFirstOfTheWidest() {
-        reads("widest: two of one width", headingAndRows(30, 30), "h\na\nc\nb\nd");
-        reads("widest: two of the least width", headingAndRows(10, 10), "h\na\nc\nb\nd");
+        DUE.reads("widest: two of one width", headingAndRows(30, 30), "h\na\nc\nb\nd");
+        DUE.reads("widest: two of the least width", headingAndRows(10, 10), "h\na\nc\nb\nd");
     }
 
     private static void leftAndUpperOnesComeFirst() {
@@ -328,7 +322,7 @@ public final class TextEdgesTest {
         page.turn(0, true);
         page.turn(2, true);
         blocksAre("turned: behind the others", page, 3, 0, 2, 1);
-        reads("turned: text", page, "b\nd\nc\na");
+        DUE.reads("turned: text", page, "b\nd\nc\na");
         page.turn(1, true);
         page.turn(3, true);
         blocksAre("turned: alone, by (u, v)", page, 2, 1, 1, 0);
@@ -337,7 +331,7 @@ public final class TextEdgesTest {
         none.sign('b', 5, 0, 5, 10);
         none.turn(1, true);
         blocksAre("turned: never in one block", none, 0, 1);
-        reads("turned: 10 between", none, "a\nb");
+        DUE.reads("turned: 10 between", none, "a\nb");
     }
 
     /** "Otherwise they are a block": one segment, or all signs at one place. */
@@ -350,7 +344,7 @@ public final class TextEdgesTest {
         same.sign('b', 0, 0, 0, 1);
         same.sign('c', 0, 0, 0, 1);
         blocksAre("block: three at one place", same, 0, 0, 0);
-        reads("block: three at one place", same, "abc");
+        DUE.reads("block: three at one place", same, "abc");
     }
 
     /** "in a block segments are by lines, then from left to right". */
@@ -358,17 +352,17 @@ public final class TextEdgesTest {
         Page page = Page.telling("ab");
         page.sign('b', 0, -12, 25, 10);
         page.sign('a', 40, 0, 5, 10);
-        reads("segments: by lines, not by lefts", page, "a b");
+        DUE.reads("segments: by lines, not by lefts", page, "a b");
         Page row = Page.telling("habc");
         row.sign('c', 80, -12, 5, 10);
         row.sign('b', 40, -12, 5, 10);
         row.sign('a', 0, -12, 5, 10);
         row.sign('h', 0, 0, 85, 10);
-        reads("segments: of one line by lefts", row, "h a b c");
+        DUE.reads("segments: of one line by lefts", row, "h a b c");
         Page tops = Page.telling("abc");
         tops.sign('b', 0, -6, 5, 30);
         tops.sign('a', 5, 0, 5, 10);
-        reads("segments: by lines, not by tops", tops, "a b");
+        DUE.reads("segments: by lines, not by tops", tops, "a b");
     }
 
     private static Page rowsOf(String codes) {
@@ -383,15 +377,15 @@ public final class TextEdgesTest {
     private static void tagsGoFirst() {
         Page page = rowsOf("abcd");
         page.tag(3, 100);
-        reads("tag: 100 is before none", page, "d\na b c");
+        DUE.reads("tag: 100 is before none", page, "d\na b c");
         page.tag(2, 99);
-        reads("tag: 99 before 100", page, "c\nd\na b");
+        DUE.reads("tag: 99 before 100", page, "c\nd\na b");
         page.tag(1, 0);
-        reads("tag: 0 the first", page, "b\nc\nd\na");
+        DUE.reads("tag: 0 the first", page, "b\nc\nd\na");
         page.tag(0, 1);
-        reads("tag: 1 behind 0", page, "b\na\nc\nd");
+        DUE.reads("tag: 1 behind 0", page, "b\na\nc\nd");
         page.tag(1, -1);
-        reads("tag: none behind all", page, "a\nc\nd\nb");
+        DUE.reads("tag: none behind all", page, "a\nc\nd\nb");
     }
 
     private static void tagsGoBeforeBlocks() {
@@ -402,7 +396,7 @@ public final class TextEdgesTest {
         page.turn(2, true);
         page.tag(2, 5);
         page.tag(1, 6);
-        reads("tag: of the last block before the first", page, "c\nb\na");
+        DUE.reads("tag: of the last block before the first", page, "c\nb\na");
         blocksAre("tag: blocks are as they were", page, 0, 1, 2);
         DUE.is("tag: lines are as they were", page.line(2), 2);
     }
@@ -412,13 +406,13 @@ public final class TextEdgesTest {
         Page page = rowsOf("abcd");
         page.tag(3, 7);
         page.tag(1, 7);
-        reads("tag: of one tag by lines", page, "b d\na c");
+        DUE.reads("tag: of one tag by lines", page, "b d\na c");
         Page row = Page.telling("ab");
         row.sign('b', 5, 0, 5, 10);
         row.sign('a', 0, 0, 5, 10);
         row.tag(0, 7);
         row.tag(1, 7);
-        reads("tag: of one tag by u", row, "ab");
+        DUE.reads("tag: of one tag by u", row, "ab");
     }
 
     /** "nothing, or 32 (behind a SPACE), if the later one is the next in the same segment". */
@@ -428,12 +422,17 @@ public final class TextEdgesTest {
         page.sign('a', 9, 0, 8, 10);
         page.sign('-', 19, 0, 8, 10);
         page.sign('b', 27, 0, 8, 10);
-        reads("within a segment: nothing is joined", page, "-a -b");
+        DUE.reads("within a segment: nothing is joined", page, "-a -b");
         page.tag(0, 1);
         page.tag(1, 2);
         page.tag(2, 3);
         page.tag(3, 4);
-        reads("within a segment: the next, of another tag", page, "-a -b");
+        DUE.reads("within a segment: the next, of another tag", page, "-a -b");
+        page.tag(2, -1);
+        page.tag(3, -1);
+        DUE.reads("within a segment: the next, behind a tag", page, "-a -b");
+        page.tag(1, 1);
+        DUE.reads("within a segment: the next, of one tag", page, "-a -b");
     }
 
     /** "otherwise 10": of one segment, but not the next. */
@@ -443,30 +442,47 @@ public final class TextEdgesTest {
         page.sign('b', 10, 0, 8, 10);
         page.sign('c', 20, 0, 8, 10);
         page.tag(1, 0);
-        reads("left out: 10 on both sides", page, "b\na\nc");
+        DUE.reads("left out: 10 on both sides", page, "b\na\nc");
         page.tag(1, -1);
         page.tag(2, 0);
-        reads("left out: the later one first", page, "c\na b");
+        DUE.reads("left out: the later one first", page, "c\na b");
+        page.tag(0, 0);
+        DUE.reads("left out: of one tag", page, "a\nc\nb");
+        Page hyphen = Page.telling("-xa");
+        hyphen.sign('-', 0, 0, 8, 10);
+        hyphen.sign('x', 8, 0, 8, 10);
+        hyphen.sign('a', 16, 0, 8, 10);
+        hyphen.tag(1, 0);
+        DUE.reads("left out: not joined", hyphen, "x\n-\na");
+        hyphen.tag(1, -1);
+        hyphen.tag(0, 3);
+        hyphen.tag(2, 3);
+        DUE.reads("left out: not joined, of one tag", hyphen, "-\na\nx");
+        Page back = Page.telling("ab");
+        back.sign('a', 0, 0, 5, 10);
+        back.sign('b', 5, 0, 5, 10);
+        back.tag(1, 0);
+        DUE.reads("left out: the one before it is not the next", back, "b\na");
     }
 
     /** "if both are of one block, in two segments ... else 32 comes between". */
     private static void blankBetweenSegments() {
-        reads("segments: of two lines", rowsOf("ab"), "a b");
+        DUE.reads("segments: of two lines", rowsOf("ab"), "a b");
         Page page = Page.telling("hab");
         page.sign('h', 0, 0, 60, 10);
         page.sign('a', 0, -12, 5, 10);
         page.sign('b', 35, -12, 5, 10);
-        reads("segments: of one line", page, "h a b");
+        DUE.reads("segments: of one line", page, "h a b");
         DUE.is("segments: of no sign", page.from(3), -1);
     }
 
     private static void feedBetweenBlocks() {
         Page page = rowsOf("ab");
         page.sign('a', 0, -100, 5, 10);
-        reads("blocks: 10 between", page, "a b\na");
+        DUE.reads("blocks: 10 between", page, "a b\na");
         page.tag(1, 3);
         page.tag(2, 3);
-        reads("blocks: 10 between, of one tag", page, "b\na\na");
+        DUE.reads("blocks: 10 between, of one tag", page, "b\na\na");
     }
 
     /** "of the same tag (or both without)". */
@@ -476,7 +492,7 @@ public final class TextEdgesTest {
             Page page = rowsOf("ab");
             page.tag(0, pair[0]);
             page.tag(1, pair[1]);
-            reads("tags " + pair[0] + ", " + pair[1], page, pair[0] == pair[1] ? "a b" : "a\nb");
+            DUE.reads("tags " + pair[0] + ", " + pair[1], page, pair[0] == pair[1] ? "a b" : "a\nb");
         }
     }
 
@@ -492,26 +508,26 @@ public final class TextEdgesTest {
     /** "the later sign's first letter is 97 .. 122". */
     private static void joinedBySmallLetters() {
         for (int later : new int[] {97, 98, 121, 122}) {
-            reads("joined: " + later, lettersInRows('x', 45, later, 0), "x" + (char) later);
+            DUE.reads("joined: " + later, lettersInRows('x', 45, later, 0), "x" + (char) later);
         }
         for (int later : new int[] {96, 123, 65, 90, 1, 45, 48, 10, 32, 225, 65533, 65535}) {
-            reads("not joined: " + later, lettersInRows('x', 45, later, 0), "x- " + (char) later);
+            DUE.reads("not joined: " + later, lettersInRows('x', 45, later, 0), "x- " + (char) later);
         }
     }
 
     /** "if the text ends with 45". */
     private static void joinedByHyphensAlone() {
         for (int last : new int[] {44, 46, 32, 10, 173, 8208, 8722, 'x'}) {
-            reads("not joined behind " + last, lettersInRows('x', last, 'a', 0), "x" + (char) last + " a");
+            DUE.reads("not joined behind " + last, lettersInRows('x', last, 'a', 0), "x" + (char) last + " a");
         }
     }
 
     private static void joinedByTheFirstAndLastLetters() {
-        reads("joined: a hyphen alone", lettersInRows(45, 0, 'a', 0), "a");
-        reads("joined: only one of two hyphens", lettersInRows(45, 45, 'a', 0), "-a");
-        reads("not joined: the hyphen is not the last", lettersInRows(45, 'x', 'a', 0), "-x a");
-        reads("joined: by the first of two letters", lettersInRows('x', 45, 'a', 'B'), "xaB");
-        reads("not joined: by the second of two", lettersInRows('x', 45, 'A', 'b'), "x- Ab");
+        DUE.reads("joined: a hyphen alone", lettersInRows(45, 0, 'a', 0), "a");
+        DUE.reads("joined: only one of two hyphens", lettersInRows(45, 45, 'a', 0), "-a");
+        DUE.reads("not joined: the hyphen is not the last", lettersInRows(45, 'x', 'a', 0), "-x a");
+        DUE.reads("joined: by the first of two letters", lettersInRows('x', 45, 'a', 'B'), "xaB");
+        DUE.reads("not joined: by the second of two", lettersInRows('x', 45, 'A', 'b'), "x- Ab");
     }
 
     /** "if both are of one block, in two segments, and of the same tag". */
@@ -520,25 +536,25 @@ public final class TextEdgesTest {
         row.sign('h', 0, 0, 60, 10);
         row.sign('-', 0, -12, 5, 10);
         row.sign('a', 35, -12, 5, 10);
-        reads("joined: two segments of one line", row, "h a");
+        DUE.reads("joined: two segments of one line", row, "h a");
         Page blocks = Page.telling("a-");
         blocks.sign('-', 0, 0, 5, 10);
         blocks.sign('a', 0, -20, 5, 10);
-        reads("not joined: two blocks", blocks, "-\na");
+        DUE.reads("not joined: two blocks", blocks, "-\na");
         Page tags = rowsOf("-a");
         tags.tag(0, 0);
-        reads("not joined: a tag and none", tags, "-\na");
+        DUE.reads("not joined: a tag and none", tags, "-\na");
         tags.tag(1, 1);
-        reads("not joined: two tags", tags, "-\na");
+        DUE.reads("not joined: two tags", tags, "-\na");
         tags.tag(1, 0);
-        reads("joined: one tag", tags, "a");
+        DUE.reads("joined: one tag", tags, "a");
         Page left = Page.telling("xa-");
         left.sign('-', 0, 0, 5, 10);
         left.sign('x', 5, 0, 5, 10);
         left.sign('a', 0, -12, 5, 10);
-        reads("not joined: the hyphen is not before it", left, "-x a");
+        DUE.reads("not joined: the hyphen is not before it", left, "-x a");
         left.tag(1, 0);
-        reads("joined: since the one between is tagged", left, "x\na");
+        DUE.reads("joined: since the one between is tagged", left, "x\na");
     }
 
     private static void joinedAgainAndAgain() {
@@ -547,11 +563,11 @@ public final class TextEdgesTest {
         for (int i = 0; i < 4; i++) {
             page.sign(1, 0, -12L * i, 5, 10);
         }
-        reads("joined: line by line", page, "xxxx-");
+        DUE.reads("joined: line by line", page, "xxxx-");
         page.map(0, 1, 45, 45);
-        reads("joined: none of hyphens only", page, "-- -- -- --");
+        DUE.reads("joined: none of hyphens only", page, "-- -- -- --");
         Page empty = rowsOf("-a-b");
-        reads("joined: all hyphens go", empty, "a b");
+        DUE.reads("joined: all hyphens go", empty, "a b");
     }
 
     /** "that 45 goes": it is no letter of the text, nor is anything in its stead. */
@@ -571,7 +587,7 @@ public final class TextEdgesTest {
         page.find(45);
         DUE.is("joined: no hyphen is found", page.find(0), 0);
         page.map(0, 'a', 'A', 0);
-        reads("joined: no more", page, "x- A");
+        DUE.reads("joined: no more", page, "x- A");
     }
 
     private static void wordsAre(String letters, int... beginsAndLengths) {
